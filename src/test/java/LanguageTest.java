@@ -2,7 +2,7 @@ import java.io.IOException;
 import java.nio.file.Files;
 import java.nio.file.Path;
 import java.util.ArrayList;
-import java.util.HashMap;
+import java.util.Arrays;
 import java.util.LinkedHashMap;
 import java.util.List;
 import java.util.Map;
@@ -45,38 +45,40 @@ public final class LanguageTest {
         dues.holds(many + " classes", many <= MOST_CLASSES);
     }
 
+    /** The line in which a method ends that begins in line i. */
+    private static int endOf(String[] lines, int i) {
+        String close = lines[i].substring(0, lines[i].indexOf(lines[i].trim())) + "}";
+        int end = i;
+        while (end < lines.length && !lines[end].equals(close)) {
+            end++;
+        }
+        return end;
+    }
+
     private static void methods(Dues dues, String bare) {
         String[] lines = bare.split("\n");
         for (int i = 0; i < lines.length; i++) {
             Matcher m = METHOD.matcher(lines[i]);
-            if (!m.matches()) {
-                continue;
+            if (m.matches()) {
+                dues.holds(m.group(1) + " is short", endOf(lines, i) - i < LONGEST_METHOD);
+                dues.holds(m.group(1) + " takes few parameters", m.group(2).split(",").length <= MOST_PARAMETERS);
             }
-            String close = lines[i].substring(0, lines[i].indexOf(lines[i].trim())) + "}";
-            int end = i;
-            while (end < lines.length && !lines[end].equals(close)) {
-                end++;
-            }
-            dues.holds(m.group(1) + " is short", end - i < LONGEST_METHOD);
-            dues.holds(m.group(1) + " takes few parameters", m.group(2).split(",").length <= MOST_PARAMETERS);
         }
     }
 
     /** By names alone: which methods stand in the text of which; those of one name are taken as one. */
     private static Map<String, List<String>> callsByName(String bare) {
-        Map<String, List<String>> calls = new LinkedHashMap<>();
-        List<String> bodies = new ArrayList<>();
         List<String> names = new ArrayList<>();
+        List<String> bodies = new ArrayList<>();
         String[] lines = bare.split("\n");
         for (int i = 0; i < lines.length; i++) {
             Matcher m = METHOD.matcher(lines[i]);
             if (m.matches()) {
                 names.add(m.group(1));
-                bodies.add("");
-            } else if (!bodies.isEmpty()) {
-                bodies.set(bodies.size() - 1, bodies.get(bodies.size() - 1) + lines[i] + "\n");
+                bodies.add(String.join("\n", Arrays.asList(lines).subList(i + 1, endOf(lines, i))));
             }
         }
+        Map<String, List<String>> calls = new LinkedHashMap<>();
         for (int i = 0; i < names.size(); i++) {
             List<String> called = calls.computeIfAbsent(names.get(i), n -> new ArrayList<>());
             Matcher m = Pattern.compile("\\b(\\w+)\\(").matcher(bodies.get(i));
@@ -89,19 +91,16 @@ public final class LanguageTest {
         return calls;
     }
 
-    private static int depth(String name, Map<String, List<String>> calls, List<String> open, Map<String, Integer> known) {
-        if (known.containsKey(name)) {
-            return known.get(name);
-        }
+    /** How many calls stand open at most from a method on, each name once. */
+    private static int depth(String name, Map<String, List<String>> calls, List<String> open) {
         open.add(name);
         int deepest = 0;
         for (String next : calls.getOrDefault(name, List.of())) {
             if (!open.contains(next)) {
-                deepest = Math.max(deepest, depth(next, calls, open, new HashMap<>()));
+                deepest = Math.max(deepest, depth(next, calls, open));
             }
         }
         open.remove(open.size() - 1);
-        known.put(name, deepest + 1);
         return deepest + 1;
     }
 
@@ -113,8 +112,8 @@ public final class LanguageTest {
         methods(dues, bare);
         Map<String, List<String>> calls = callsByName(bare);
         for (String name : calls.keySet()) {
-            int deep = depth(name, calls, new ArrayList<>(), new HashMap<>());
-            dues.holds(name + " goes " + deep + " calls deep", deep <= MOST_DEEP);
+            int deep = depth(name, calls, new ArrayList<>());
+            dues.holds(name + "() goes " + deep + " calls deep", deep <= MOST_DEEP);
         }
         for (char c : text.toCharArray()) {
             dues.holds("a sign of the text is 1 .. 127", c >= 1 && c <= 127);
