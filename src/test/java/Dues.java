@@ -15,6 +15,10 @@ final class Dues {
         due(what, is ? 1 : 0, 1);
     }
 
+    int looked() {
+        return looked;
+    }
+
     int wrong() {
         return wrong;
     }

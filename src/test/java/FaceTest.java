@@ -8,6 +8,7 @@ import java.util.List;
 
 /** The public face is the document's, and there is no other member that can be reached from outside. */
 public final class FaceTest {
+    private static final int MOST_FIELDS = 20;
     private static final String[] FACE = {
         "int feed(int)", "int town()", "int pane(int, int, int)", "int of(int, int)", "int grows(int, int)",
         "int row(int, int, int)", "int set(int, int, int)", "int cold(int)", "int shut(int, boolean)",
@@ -63,6 +64,15 @@ public final class FaceTest {
         }
     }
 
+    /** How many fields a class has beside its constants. */
+    private static int fieldsOf(Class<?> c) {
+        int many = 0;
+        for (Field f : c.getDeclaredFields()) {
+            many += Modifier.isStatic(f.getModifiers()) ? 0 : 1;
+        }
+        return many;
+    }
+
     private static void fields(Dues dues) {
         List<String> open = new ArrayList<>();
         for (Field f : FrostBids.class.getDeclaredFields()) {
@@ -73,6 +83,10 @@ public final class FaceTest {
             }
         }
         Collections.sort(open);
+        dues.holds("few fields", fieldsOf(FrostBids.class) <= MOST_FIELDS);
+        for (Class<?> c : FrostBids.class.getDeclaredClasses()) {
+            dues.holds("few fields in " + c, fieldsOf(c) <= MOST_FIELDS);
+        }
         dues.holds("no constant besides: " + open, open.equals(List.of("BAD", "FULL", "NO", "NONE", "STATE")));
     }
 

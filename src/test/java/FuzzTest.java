@@ -3,7 +3,8 @@ import java.util.List;
 
 /** Long runs of calls, told by counted numbers, in which FrostBids and PlainFrost answer alike. */
 public final class FuzzTest {
-    private static final int RUNS = 120, CALLS = 512;
+    /** How many runs there are, and of how many calls: in all, of the longest text that is fed, of a look. */
+    private static final int RUNS = 250, CALLS = 512, LONGEST = 104, LOOK = 126;
     private static final String[] NAMES = {"feed", "town", "pane", "of", "grows", "row", "set", "cold", "shut",
         "breathe", "told", "pass", "on", "best", "heat", "comes", "breaths", "see", "colds", "warms", "firm", "odds",
         "mean", "plan", "done", "book", "looked", "act", "trace", "as", "image", "undo", "count"};
@@ -38,7 +39,7 @@ public final class FuzzTest {
             case 1: return (1 << any(12)) - 1;
             default: {
                 int p = any(5);
-                int now = x.on(any(20), 10 + p);
+                int now = y.on(any(20), 10 + p);
                 return Math.max(0, now);
             }
         }
@@ -104,7 +105,8 @@ public final class FuzzTest {
     }
 
     private void feedTown() {
-        for (char sign : townText().toCharArray()) {
+        String text = townText();
+        for (char sign : text.substring(0, Math.min(LONGEST, text.length())).toCharArray()) {
             same("feed(" + (int) sign + ")", x.feed(sign), y.feed(sign));
         }
         same("town()", x.town(), y.town());
@@ -115,44 +117,80 @@ public final class FuzzTest {
         if (which >= NAMES.length) {
             which = new int[] {2, 6, 11, 9, 7, 17, 23}[which - NAMES.length];
         }
-        int a = some(5), b = some(20), c = some(9), d = ice();
-        boolean is = any(1) == 0;
-        int what = some(1);
-        String name = NAMES[which] + "(" + a + ", " + b + ", " + c + ", " + d + ", " + what + ", " + is + ")";
+        String name = NAMES[which];
+        int pane = some(5);
+        if (which < 12) {
+            change(name, which, pane);
+        } else if (which < 23) {
+            ask(name, which, pane);
+        } else {
+            tell(name, which, pane);
+        }
+    }
+
+    private void change(String call, int which, int pane) {
+        int n = some(9), what = some(1), bits = ice();
+        String name = call + "(" + pane + ", " + what + ", " + n + ", " + bits + " ..)";
         switch (which) {
-            case 0: if (any(5) == 0) { same(name, x.feed(b), y.feed(b)); } break;
+            case 0: if (any(5) == 0) { int sign = some(127); same(name, x.feed(sign), y.feed(sign)); } break;
             case 1: if (any(3) == 0) { feedTown(); } else if (any(9) == 0) { same(name, x.town(), y.town()); } break;
-            case 2: { int k = some(6), v = some(9); same(name, x.pane(k, v, c), y.pane(k, v, c)); break; }
-            case 3: { int w = some(5); same(name, x.of(a, w), y.of(a, w)); break; }
-            case 4: { int w = some(11); same(name, x.grows(a, w), y.grows(a, w)); break; }
-            case 5: { int k = some(3); same(name, x.row(a, k, c), y.row(a, k, c)); break; }
-            case 6: { int n = what == 0 ? c : d; same(name, x.set(a, what, n), y.set(a, what, n)); break; }
-            case 7: same(name, x.cold(b), y.cold(b)); break;
-            case 8: is = any(3) == 0; same(name, x.shut(a, is), y.shut(a, is)); break;
-            case 9: same(name, x.breathe(a), y.breathe(a)); break;
+            case 2: { int kind = some(6), v = some(9); same(name, x.pane(kind, v, n), y.pane(kind, v, n)); break; }
+            case 3: { int w = some(5); same(name, x.of(pane, w), y.of(pane, w)); break; }
+            case 4: { int cell = some(11); same(name, x.grows(pane, cell), y.grows(pane, cell)); break; }
+            case 5: { int k = some(3); same(name, x.row(pane, k, n), y.row(pane, k, n)); break; }
+            case 6: { int to = what == 0 ? n : bits; same(name, x.set(pane, what, to), y.set(pane, what, to)); break; }
+            case 7: { int cold = some(20); same(name, x.cold(cold), y.cold(cold)); break; }
+            case 8: { boolean is = any(3) == 0; same(name, x.shut(pane, is), y.shut(pane, is)); break; }
+            case 9: same(name, x.breathe(pane), y.breathe(pane)); break;
             case 10: { int w = some(6); same(name, x.told(w), y.told(w)); break; }
-            case 11: { int n = any(2) == 0 ? some(60) : any(4); same(name, x.pass(n), y.pass(n)); break; }
-            case 12: { int n = some(60), w = any(2) == 0 ? some(6) : 10 + a; same(name, x.on(n, w), y.on(n, w)); break; }
-            case 13: same(name, x.best(a, b, what), y.best(a, b, what)); break;
-            case 14: same(name, x.heat(a, b, what), y.heat(a, b, what)); break;
-            case 15: same(name, x.comes(a, d), y.comes(a, d)); break;
-            case 16: { int n = some(3), k = some(3) - 1; same(name, x.breaths(n, k), y.breaths(n, k)); break; }
-            case 17: { int n = some(20), i = any(1) == 0 ? x.on(n, 10 + a) : d; same(name, x.see(a, n, i), y.see(a, n, i)); break; }
+            default: { int hours = any(2) == 0 ? some(60) : any(4); same(name, x.pass(hours), y.pass(hours)); break; }
+        }
+    }
+
+    private void ask(String call, int which, int pane) {
+        int n = some(20), far = some(60), what = some(1), bits = ice();
+        String name = call + "(" + pane + ", " + what + ", " + n + ", " + far + ", " + bits + " ..)";
+        switch (which) {
+            case 12: { int w = any(2) == 0 ? some(6) : 10 + pane; same(name, x.on(far, w), y.on(far, w)); break; }
+            case 13: same(name, x.best(pane, n, what), y.best(pane, n, what)); break;
+            case 14: same(name, x.heat(pane, n, what), y.heat(pane, n, what)); break;
+            case 15: same(name, x.comes(pane, bits), y.comes(pane, bits)); break;
+            case 16: { int h = some(3), k = some(3) - 1; same(name, x.breaths(h, k), y.breaths(h, k)); break; }
+            case 17: {
+                int seen = any(1) == 0 ? y.on(n, 10 + pane) : bits;
+                same(name, x.see(pane, n, seen), y.see(pane, n, seen));
+                break;
+            }
             case 18: same(name, x.colds(what), y.colds(what)); break;
-            case 19: same(name, x.warms(a), y.warms(a)); break;
-            case 20: same(name, x.firm(a, what), y.firm(a, what)); break;
-            case 21: { int n = some(60), q = any(1) == 0 ? some(999) : any(60); same(name, x.odds(a, n, q, what), y.odds(a, n, q, what)); break; }
-            case 22: same(name, x.mean(what), y.mean(what)); break;
-            case 23: { int w = any(1) == 0 ? 0 : some(3); same(name, x.plan(w, a), y.plan(w, a)); break; }
+            case 19: same(name, x.warms(pane), y.warms(pane)); break;
+            case 20: same(name, x.firm(pane, what), y.firm(pane, what)); break;
+            case 21: {
+                int q = any(1) == 0 ? some(999) : any(60);
+                same(name, x.odds(pane, far, q, what), y.odds(pane, far, q, what));
+                break;
+            }
+            default: same(name, x.mean(what), y.mean(what)); break;
+        }
+    }
+
+    private void tell(String call, int which, int pane) {
+        int what = some(1), few = some(6), many = some(99), bits = ice();
+        String name = call + "(" + pane + ", " + what + ", " + few + ", " + many + ", " + bits + " ..)";
+        switch (which) {
+            case 23: { int w = any(1) == 0 ? 0 : some(3); same(name, x.plan(w, pane), y.plan(w, pane)); break; }
             case 24: same(name, x.done(what), y.done(what)); break;
-            case 25: { int i = any(2) > 0 ? x.of(a, 3) : d; same(name, x.book(a, i), y.book(a, i)); break; }
+            case 25: {
+                int booked = any(2) > 0 ? y.of(pane, 3) : bits;
+                same(name, x.book(pane, booked), y.book(pane, booked));
+                break;
+            }
             case 26: same(name, x.looked(), y.looked()); break;
-            case 27: { int w = some(2), n = some(99); same(name, x.act(a, w, n), y.act(a, w, n)); break; }
-            case 28: { int w = some(8); same(name, x.trace(w), y.trace(w)); break; }
-            case 29: { int k = some(6); same(name, x.as(a, k), y.as(a, k)); break; }
+            case 27: { int act = some(2); same(name, x.act(pane, act, many), y.act(pane, act, many)); break; }
+            case 28: { int i = some(8); same(name, x.trace(i), y.trace(i)); break; }
+            case 29: same(name, x.as(pane, few), y.as(pane, few)); break;
             case 30: same(name, x.image(), y.image()); break;
             case 31: if (any(1) == 0) { same(name, x.undo(), y.undo()); } break;
-            default: { int w = some(6); same(name, x.count(w), y.count(w)); break; }
+            default: same(name, x.count(few), y.count(few)); break;
         }
     }
 
@@ -172,15 +210,15 @@ public final class FuzzTest {
         }
     }
 
+    /** As many calls as are promised, with room for the longest town and a look at the end. */
     private void go() {
         x = new FrostBids();
         y = new PlainFrost();
-        for (int i = 0; i < CALLS && dues.wrong() == 0; i++) {
+        while (run.size() < CALLS - LONGEST - 1 - LOOK && dues.wrong() == 0) {
             call();
-            if (i % 100 == 99) {
-                look();
-            }
         }
+        look();
+        dues.holds(run.size() + " calls are no more than promised", run.size() <= CALLS);
     }
 
     public static void main(String[] args) {

@@ -16,6 +16,8 @@ public final class LanguageTest {
         "\\bpackage\\b", "@", "\\bObject\\b", "\\bSystem\\.(?!arraycopy)", "\\bequals\\b", "\\bhashCode\\b",
         "\\btoString\\b", "Exact\\b", "\\bprotected\\b", "\\bRandom\\b", "\\bThread\\b", "\\bvar\\b",
         "static \\{", "\\bwhile \\(true\\)", "for \\(;;\\)", "\\bdouble\\b", "\\bfloat\\b"};
+    /** What is used of the library's static functions that the language leaves. */
+    private static final List<String> LIBRARY = List.of("Math.min", "Math.max", "Arrays.fill", "System.arraycopy");
     private static final int LONGEST_METHOD = 60, MOST_CLASSES = 12, MOST_PARAMETERS = 7, MOST_DEEP = 8;
     private static final Pattern METHOD =
         Pattern.compile("^\\s+(?:public |private |static |final )*[\\w\\[\\]]+ (\\w+)\\(([^)]*)\\) \\{$");
@@ -34,6 +36,11 @@ public final class LanguageTest {
         Matcher imports = Pattern.compile("import ([\\w.]+);").matcher(bare);
         while (imports.find()) {
             dues.holds("import of " + imports.group(1), imports.group(1).equals("java.util.Arrays"));
+        }
+        Matcher library = Pattern.compile("\\b([A-Z]\\w*[a-z]\\w*)\\.(\\w+)\\(").matcher(bare);
+        while (library.find()) {
+            String call = library.group(1) + "." + library.group(2);
+            dues.holds("the library's " + call, LIBRARY.contains(call));
         }
         Matcher statics = Pattern.compile("(?m)^\\s+(?:public |private )?static (?!final|class)[^(]*;").matcher(bare);
         dues.holds("static fields are final", !statics.find());
