@@ -49,18 +49,13 @@ public final class FaceTest {
             dues.holds("the face has " + one, open.remove(one));
         }
         dues.holds("no method besides: " + open, open.isEmpty());
-        privateNames(dues, FrostBids.class, openNames);
+        for (Method m : FrostBids.class.getDeclaredMethods()) {
+            boolean isOpen = !Modifier.isPrivate(m.getModifiers());
+            dues.holds(m + " bears no name of the face", isOpen || !openNames.contains(m.getName()));
+        }
         for (Class<?> c : FrostBids.class.getDeclaredClasses()) {
-            privateNames(dues, c, openNames);
             dues.holds(c + " is static", Modifier.isStatic(c.getModifiers()));
             dues.holds(c + " is not public", !Modifier.isPublic(c.getModifiers()));
-        }
-    }
-
-    private static void privateNames(Dues dues, Class<?> c, List<String> openNames) {
-        for (Method m : c.getDeclaredMethods()) {
-            boolean isFace = c == FrostBids.class && !Modifier.isPrivate(m.getModifiers());
-            dues.holds(m + " bears no name of the face", isFace || !openNames.contains(m.getName()));
         }
     }
 
