@@ -152,6 +152,14 @@ public final class HoursToComeTest extends Edges {
         due("best(0, 20, 1)", x.best(0, 20, 1), 55);
     }
 
+    @Edge(promise = 15, says = "behind how many HOURS (0 .. n) its OFFER is greatest")
+    static void bestBehindOneHour() {
+        FrostBids x = one(0, 0, 0, "glow 50 h>0");
+        due("best(0, 1, 0)", x.best(0, 1, 0), 1);
+        due("best(0, 9, 0)", x.best(0, 9, 0), 1);
+        due("best(0, 9, 1)", x.best(0, 9, 1), 5);
+    }
+
     @Edge(promise = 15, says = "BEST of one in n HOURS (0 .. 20)")
     static void bestBehindTheLastHour() {
         FrostBids x = one(0, 0, 4, SLOWLY);
