@@ -27,7 +27,7 @@ public final class FrostBids {
     private final Town[] towns = new Town[MOST_TOWNS];
     private int townCount = 0;
     private final Rows tape = new Rows(MOST_SIGNS);
-    private final Reader reader = new Reader(bareTown);
+    private final Reader reader = new Reader();
     private int coldNow = 5;
     private int paidNow = 0;
     private int hourNow = 0;
@@ -574,6 +574,9 @@ public final class FrostBids {
     private boolean isSeenSo(int cold, int who, int warm, int v) {
         for (int i = 0; i < seenRows.size(); i++) {
             int pane = seenRows.at(i, 0);
+            if (!isPane(pane)) {
+                return false;
+            }
             Course course = courseFromNow(pane, cold);
             if (pane == who) {
                 course.warm = warm;
@@ -1035,13 +1038,9 @@ public final class FrostBids {
     private static final class Reader {
         /** THE TAPE's signs and NO_SIGN behind them, past which no reading goes: a place is always one of these. */
         private final int[] signs = new int[MOST_SIGNS + 1];
-        private Town town;
+        private Town town = new Town();
         private int place = 0;
         private int number = 0;
-
-        Reader(Town town) {
-            this.town = town;
-        }
 
         /** The FAULT; NO_FAULT, if the tape is a TOWN, which the given one is then. */
         int readInto(Town next, Rows tape) {

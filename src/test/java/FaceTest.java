@@ -1,23 +1,47 @@
+import java.io.IOException;
 import java.lang.reflect.Constructor;
 import java.lang.reflect.Field;
 import java.lang.reflect.Method;
 import java.lang.reflect.Modifier;
+import java.nio.file.Files;
+import java.nio.file.Path;
 import java.util.ArrayList;
-import java.util.Collections;
+import java.util.LinkedHashMap;
 import java.util.List;
+import java.util.Map;
+import java.util.regex.Matcher;
+import java.util.regex.Pattern;
 
 /** The public face is the document's, and there is no other member that can be reached from outside. */
 public final class FaceTest {
-    private static final int MOST_FIELDS = 20;
-    private static final String[] FACE = {
-        "int feed(int)", "int town()", "int pane(int, int, int)", "int of(int, int)", "int grows(int, int)",
-        "int row(int, int, int)", "int set(int, int, int)", "int cold(int)", "int shut(int, boolean)",
-        "int breathe(int)", "int told(int)", "int pass(int)", "int on(int, int)", "int best(int, int, int)",
-        "int heat(int, int, int)", "int comes(int, int)", "int breaths(int, int)", "int see(int, int, int)",
-        "int colds(int)", "int warms(int)", "int firm(int, int)", "long odds(int, int, int, int)",
-        "long mean(int)", "int plan(int, int)", "int done(int)", "int book(int, int)", "int looked()",
-        "int act(int, int, int)", "int trace(int)", "int as(int, int)", "int image()", "int undo()",
-        "int count(int)"};
+    private static final int CALLS = 33, CONSTANTS = 5;
+    /** A call, and constants of one type, as the document's face tells them. */
+    private static final Pattern CALL = Pattern.compile("    public (int|long) (\\w+)\\(([^)]*)\\);");
+    private static final Pattern ROW = Pattern.compile("    public static final (int|long) ([^;]*);");
+
+    /** The document's calls: what each answers, its name, the types of its parameters. */
+    private static List<String> calls(String doc) {
+        List<String> calls = new ArrayList<>();
+        Matcher m = CALL.matcher(doc);
+        while (m.find()) {
+            calls.add(m.group(1) + " " + m.group(2) + "(" + m.group(3).replaceAll("(\\w+) \\w+", "$1") + ")");
+        }
+        return calls;
+    }
+
+    /** The document's constants: type and name, and what each is. */
+    private static Map<String, Long> constants(String doc) {
+        Map<String, Long> constants = new LinkedHashMap<>();
+        Matcher m = ROW.matcher(doc);
+        while (m.find()) {
+            for (String one : m.group(2).split(", ")) {
+                String[] parts = one.split(" = ");
+                boolean isLeast = parts[1].equals("Long.MIN_VALUE");
+                constants.put(m.group(1) + " " + parts[0], isLeast ? Long.MIN_VALUE : Long.parseLong(parts[1]));
+            }
+        }
+        return constants;
+    }
 
     private static String sign(Method m) {
         List<String> types = new ArrayList<>();
@@ -27,73 +51,43 @@ public final class FaceTest {
         return m.getReturnType().getName() + " " + m.getName() + "(" + String.join(", ", types) + ")";
     }
 
-    private static void constants(Dues dues) {
-        dues.due("NONE", FrostBids.NONE, -1);
-        dues.due("BAD", FrostBids.BAD, -2);
-        dues.due("STATE", FrostBids.STATE, -3);
-        dues.due("FULL", FrostBids.FULL, -4);
-        dues.due("NO", FrostBids.NO, Long.MIN_VALUE);
-    }
-
-    private static void methods(Dues dues) {
-        List<String> open = new ArrayList<>();
-        List<String> openNames = new ArrayList<>();
+    private static void methods(Dues dues, String doc) {
+        List<String> wanted = calls(doc);
+        dues.due("calls in the document", wanted.size(), CALLS);
         for (Method m : FrostBids.class.getDeclaredMethods()) {
             if (!Modifier.isPrivate(m.getModifiers())) {
-                open.add(sign(m));
-                openNames.add(m.getName());
-                dues.holds(m + " is public and no static one", m.getModifiers() == Modifier.PUBLIC);
+                dues.holds(m + " is of the face, once", wanted.remove(sign(m)));
+                dues.holds(m + " is public, and nothing else", m.getModifiers() == Modifier.PUBLIC);
             }
         }
-        for (String one : FACE) {
-            dues.holds("the face has " + one, open.remove(one));
-        }
-        dues.holds("no method besides: " + open, open.isEmpty());
-        for (Method m : FrostBids.class.getDeclaredMethods()) {
-            boolean isOpen = !Modifier.isPrivate(m.getModifiers());
-            dues.holds(m + " bears no name of the face", isOpen || !openNames.contains(m.getName()));
-        }
-        for (Class<?> c : FrostBids.class.getDeclaredClasses()) {
-            dues.holds(c + " is static", Modifier.isStatic(c.getModifiers()));
-            dues.holds(c + " is not public", !Modifier.isPublic(c.getModifiers()));
-        }
+        dues.holds("no call is missing: " + wanted, wanted.isEmpty());
     }
 
-    /** How many fields a class has beside its constants. */
-    private static int fieldsOf(Class<?> c) {
-        int many = 0;
-        for (Field f : c.getDeclaredFields()) {
-            many += Modifier.isStatic(f.getModifiers()) ? 0 : 1;
-        }
-        return many;
-    }
-
-    private static void fields(Dues dues) {
-        List<String> open = new ArrayList<>();
+    private static void fields(Dues dues, String doc) throws IllegalAccessException {
+        Map<String, Long> wanted = constants(doc);
+        dues.due("constants in the document", wanted.size(), CONSTANTS);
         for (Field f : FrostBids.class.getDeclaredFields()) {
             if (!Modifier.isPrivate(f.getModifiers())) {
-                open.add(f.getName());
-                int wanted = Modifier.PUBLIC | Modifier.STATIC | Modifier.FINAL;
-                dues.due("modifiers of " + f, f.getModifiers(), wanted);
+                Long value = wanted.remove(f.getType().getName() + " " + f.getName());
+                dues.holds(f + " is of the face", value != null);
+                dues.due("modifiers of " + f, f.getModifiers(), Modifier.PUBLIC | Modifier.STATIC | Modifier.FINAL);
+                dues.holds(f + " is " + value, value != null && value == f.getLong(null));
             }
         }
-        Collections.sort(open);
-        dues.holds("few fields", fieldsOf(FrostBids.class) <= MOST_FIELDS);
-        for (Class<?> c : FrostBids.class.getDeclaredClasses()) {
-            dues.holds("few fields in " + c, fieldsOf(c) <= MOST_FIELDS);
-        }
-        dues.holds("no constant besides: " + open, open.equals(List.of("BAD", "FULL", "NO", "NONE", "STATE")));
+        dues.holds("no constant is missing: " + wanted, wanted.isEmpty());
     }
 
-    public static void main(String[] args) {
+    public static void main(String[] args) throws IOException, IllegalAccessException {
         Dues dues = new Dues();
+        String doc = Files.readString(Path.of(args.length > 1 ? args[1] : "../shared/DOC.md"));
         dues.holds("public and final", FrostBids.class.getModifiers() == (Modifier.PUBLIC | Modifier.FINAL));
+        dues.holds("of no package, under nothing", FrostBids.class.getPackageName().isEmpty()
+            && FrostBids.class.getSuperclass() == Object.class && FrostBids.class.getInterfaces().length == 0);
         Constructor<?>[] made = FrostBids.class.getDeclaredConstructors();
         dues.holds("one constructor without arguments", made.length == 1 && made[0].getParameterCount() == 0
-            && Modifier.isPublic(made[0].getModifiers()));
-        constants(dues);
-        methods(dues);
-        fields(dues);
+            && made[0].getModifiers() == Modifier.PUBLIC);
+        methods(dues, doc);
+        fields(dues, doc);
         dues.end();
     }
 }
